@@ -364,8 +364,7 @@ public final class ResinWoods {
             return;
         }
         for (int f = 0; f < tree.faces.size(); f++) {
-            planner.cup.copy(tree.faces.get(f));
-            planner.cup.ranOver = 0;
+            planner.cup.standInFor(tree.faces.get(f));
             for (int ended = 1; ended <= MOST_DAYS_WALKED; ended++) {
                 int day = now + ended - 1;
                 if (day < LAST_DAY) {
@@ -548,12 +547,12 @@ public final class ResinWoods {
             }
         }
 
-        void copy(Face other) {
-            streaks = other.streaks;
+        /** Takes over what the ends of days depend on; what ran over counts from here on. */
+        void standInFor(Face other) {
             latest = other.latest;
             openedIn = other.openedIn;
             has = other.has;
-            ranOver = other.ranOver;
+            ranOver = 0;
             for (int grade = 0; grade < GRADES; grade++) {
                 ofGrade[grade] = other.ofGrade[grade];
             }
@@ -633,6 +632,7 @@ public final class ResinWoods {
         final int[] order = new int[MOST_WALKED];
         final int[] best = new int[MOST_WALKED];
         final boolean[] isVisited = new boolean[MOST_WALKED];
+        /** Runs ahead in a face's stead, so that nothing foreseen changes the face. */
         final Face cup = new Face();
         /** What is only foreseen is no part of the tally. */
         final Tally unread = new Tally();
@@ -650,7 +650,6 @@ public final class ResinWoods {
             int slot = Math.min(size, MOST_WALKED - 1);
             numbers[slot] = tree.number;
             places[slot] = tree.where;
-            isVisited[slot] = false;
             for (int ended = 0; ended <= MOST_DAYS_WALKED; ended++) {
                 spills[slot][ended] = 0;
             }

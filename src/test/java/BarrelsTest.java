@@ -9,6 +9,7 @@ public final class BarrelsTest {
         woodsHaveBarrelsOfTheirOwn();
         goneBarrelsAreFull();
         twoHundredBarrelsAtMost();
+        aThousandIsOneBarrel();
         barrelsAreGraded();
         barrelsAreStilled();
         wrongNumbersAreRefused();
@@ -200,16 +201,39 @@ public final class BarrelsTest {
         }
         CHECKS.due("400 find room", w.empty(22), 400);
         CHECKS.due("an empty tree needs no barrel", w.empty(22), 0);
-        w.weather(w.count(0), 3649, 8, 0);
+        w.weather(33, 41, 8, 0);
         w.cut(22, 0);
-        w.go(10);
-        CHECKS.due("exactly 200 find room", w.empty(22), 200);
+        CHECKS.due("201 run", w.go(10), 43);
+        CHECKS.due("201 don't find room in 200", w.empty(22), -1);
+        w.weather(43, 48, 0, 1);
+        w.go(1);
+        CHECKS.due("199 do", w.empty(22), 199);
+        w.cut(22, 0);
+        w.weather(49, 49, 1, 0);
+        w.go(6);
+        CHECKS.due("exactly the last one does", w.empty(22), 1);
         CHECKS.due("the 200th is full", w.barrel(199, 7), 1);
         w.cut(22, 0);
         w.go(1);
         CHECKS.due("no more", w.empty(22), -1);
         CHECKS.due("no barrel 200", w.barrel(200, 0), -1);
         CHECKS.due("barrels", w.count(2), 200);
+    }
+
+    private static void aThousandIsOneBarrel() {
+        ResinWoods w = withStilledBarrels();
+        w.tree(0, 0, 300);
+        for (int times = 0; times < 3; times++) {
+            w.cut(23, 0);
+            w.cut(23, 1);
+            w.go(5);
+        }
+        w.weather(30, 39, 8, 0);
+        w.cut(23, 2);
+        w.go(10);
+        CHECKS.due("1000 come to the 200th barrel", w.empty(23), 1000);
+        CHECKS.due("200 barrels", w.count(2), 200);
+        CHECKS.due("it is full", w.barrel(199, 7), 1);
     }
 
     private static void barrelsAreGraded() {
@@ -237,10 +261,17 @@ public final class BarrelsTest {
         for (int what = 0; what < want.length; what++) {
             CHECKS.due("barrel(0, " + what + ")", w.barrel(0, what), want[what]);
         }
+        w.still(0);
+        w.go(8);
+        w.empty(0);
+        w.still(1);
+        w.go(1);
+        CHECKS.due("one unit", w.empty(0), 1);
+        CHECKS.due("of grade 3", w.barrel(2, 5), 3);
     }
 
     private static void barrelsAreStilled() {
-        int[] parts = {70, 65, 60, 55, 55};
+        int[] parts = {70, 65, 60, 55};
         ResinWoods w = new ResinWoods();
         w.tree(0, 0, 400);
         int spirit = 0;
@@ -249,19 +280,19 @@ public final class BarrelsTest {
             if (year != 4) {
                 int b = w.count(2);
                 w.cut(0, 0);
-                w.weather(w.count(0), w.count(0) + 9, 3, 0);
+                w.weather(w.count(0), w.count(0) + 9, 4, 0);
                 w.go(9);
-                CHECKS.due("72 run in year " + year, w.empty(0), 72);
+                CHECKS.due("96 run in year " + year, w.empty(0), 96);
                 CHECKS.due("grade in year " + year, w.barrel(b, 5), Math.min(year, 3));
-                int want = 72 * parts[Math.min(year, 3)] / 100;
-                CHECKS.due("still in year " + year, w.still(b), 14 * 10000 + want);
+                int want = 96 * parts[Math.min(year, 3)] / 100;
+                CHECKS.due("still in year " + year, w.still(b), 19 * 10000 + want);
                 CHECKS.due("stilled once", w.still(b), -1);
-                spirit += 14;
+                spirit += 19;
                 rosin += want;
                 w.go(1);
                 w.empty(0);
-                w.still(b + 1);
-                rosin += 3 * parts[Math.min(year, 3)] / 100;
+                CHECKS.due("four units: no spirit", w.still(b + 1), 2);
+                rosin += 2;
             } else {
                 w.go(10);
             }

@@ -6,9 +6,11 @@ public final class WalksTest {
         stepsGoAlongBothSides();
         sixtyStepsAreADay();
         leastRunsOver();
+        longWalksLastForDays();
         fewestStepsOfLikeOnes();
         firstOfLikeOnes();
         rainMakesRoom();
+        foreseenResinHasItsGrade();
         walksEndWithTheDays();
         burntTreesDontRun();
         highTreesAreWalked();
@@ -74,6 +76,23 @@ public final class WalksTest {
         CHECKS.due("nothing runs over", w.walked(3, 0, 500, 0), 0);
     }
 
+    private static void longWalksLastForDays() {
+        ResinWoods w = new ResinWoods();
+        int[] corners = {0, 9900, 9999, 99};
+        for (int where : corners) {
+            w.tree(0, where, 100);
+        }
+        fillCups(w, 4);
+        for (int tree = 0; tree < 4; tree++) {
+            w.cut(tree, 0);
+        }
+        for (int k = 0; k < 4; k++) {
+            CHECKS.due("corner " + k, w.walk(15, 0, 1010, k), k);
+        }
+        CHECKS.due("20, 119, 218, 317 steps", w.walked(15, 0, 1010, 1), 317);
+        CHECKS.due("0, 1, 3 and 5 days", w.walked(15, 0, 1010, 0), 30 + 75 + 100);
+    }
+
     private static void fewestStepsOfLikeOnes() {
         ResinWoods w = new ResinWoods();
         int[] places = {3000, 1000, 2000, 5000, 4000, 6000};
@@ -117,6 +136,18 @@ public final class WalksTest {
         CHECKS.due("the rain comes behind the running", w.walked(1, 0, 60, 0), 30);
         w.weather(16, 16, 9, 0);
         CHECKS.due("weather as it is told now", w.walked(1, 0, 6060, 0), 30 + 9);
+    }
+
+    private static void foreseenResinHasItsGrade() {
+        ResinWoods w = new ResinWoods();
+        w.tree(0, 0, 100);
+        w.go(365);
+        fillCups(w, 1);
+        w.cut(0, 0);
+        w.weather(380, 390, 5, 1);
+        CHECKS.due("all is of grade 0, so four of 400 are washed each day", w.walked(1, 0, 9090, 0), 30 + 21 + 16);
+        w.go(3);
+        CHECKS.due("it comes as foreseen", w.face(0, 0, 8), 140 + 67);
     }
 
     private static void walksEndWithTheDays() {
