@@ -2,12 +2,18 @@
 final class Checks {
     private int asked = 0;
     private int wrong = 0;
+    private String cited = "";
+
+    /** The words of the document that the answers from here on are asked for; CitedTest looks for them there. */
+    void sentence(String words) {
+        cited = "\"" + words + "\": ";
+    }
 
     void due(String what, long got, long want) {
         asked++;
         if (got != want) {
             wrong++;
-            System.out.println(what + ": answered " + got + ", due is " + want);
+            System.out.println(cited + what + ": answered " + got + ", due is " + want);
         }
     }
 
