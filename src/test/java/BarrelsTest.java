@@ -17,8 +17,8 @@ public final class BarrelsTest {
     }
 
     /** A wood of trees with three faces each, on which a streak has just been cut. */
-    private static ResinWoods tapped(int trees, int warmth) {
-        ResinWoods w = new ResinWoods();
+    private static Woods tapped(int trees, int warmth) {
+        Woods w = new Woods();
         w.weather(0, 3649, warmth, 0);
         for (int i = 0; i < trees; i++) {
             w.tree(0, i, 300);
@@ -27,14 +27,14 @@ public final class BarrelsTest {
         return w;
     }
 
-    private static void cutAll(ResinWoods w, int tree) {
+    private static void cutAll(Woods w, int tree) {
         for (int face = 0; face < 3; face++) {
             w.cut(tree, face);
         }
     }
 
     private static void cupsComeToABarrel() {
-        ResinWoods w = tapped(2, 1);
+        Woods w = tapped(2, 1);
         CHECKS.due("nothing is emptied", w.empty(0), 0);
         CHECKS.due("no barrel for nothing", w.count(2), 0);
         w.go(1);
@@ -57,7 +57,7 @@ public final class BarrelsTest {
     }
 
     private static void barrelsFillByFacesAndGrades() {
-        ResinWoods w = new ResinWoods();
+        Woods w = new Woods();
         w.tree(0, 0, 300);
         w.weather(0, 3649, 9, 0);
         w.go(360);
@@ -81,7 +81,7 @@ public final class BarrelsTest {
         CHECKS.due("of tree 0 in the second", w.from(1, 0), 200);
     }
 
-    private static void fillCups(ResinWoods w, int trees) {
+    private static void fillCups(Woods w, int trees) {
         for (int times = 0; times < 3; times++) {
             for (int tree = 0; tree < trees; tree++) {
                 cutAll(w, tree);
@@ -91,7 +91,7 @@ public final class BarrelsTest {
     }
 
     private static void aFullBarrelIsFollowedOnlyIfNeeded() {
-        ResinWoods v = new ResinWoods();
+        Woods v = new Woods();
         v.weather(0, 3649, 9, 0);
         v.tree(3, 0, 300);
         v.tree(3, 0, 300);
@@ -108,7 +108,7 @@ public final class BarrelsTest {
     }
 
     private static void woodsHaveBarrelsOfTheirOwn() {
-        ResinWoods w = new ResinWoods();
+        Woods w = new Woods();
         for (int i = 0; i < 6; i++) {
             w.tree(5 - i, 0, 100);
             w.cut(i, 0);
@@ -128,7 +128,7 @@ public final class BarrelsTest {
     }
 
     private static void goneBarrelsAreFull() {
-        ResinWoods w = tapped(3, 1);
+        Woods w = tapped(3, 1);
         w.let(0, 10);
         w.go(1);
         w.empty(0);
@@ -152,8 +152,8 @@ public final class BarrelsTest {
      * 199 stilled barrels, a tree (20) of wood 0 with three full cups, and trees of wood 1 (21) and of wood 0 (22)
      * with a full one; it takes some 470 of the 512 calls.
      */
-    private static ResinWoods withStilledBarrels() {
-        ResinWoods w = new ResinWoods();
+    private static Woods withStilledBarrels() {
+        Woods w = new Woods();
         w.weather(0, 3649, 9, 0);
         for (int tree = 0; tree < 20; tree++) {
             w.tree(5, 0, 80);
@@ -179,14 +179,14 @@ public final class BarrelsTest {
         return w;
     }
 
-    private static void cutOthers(ResinWoods w) {
+    private static void cutOthers(Woods w) {
         cutAll(w, 20);
         w.cut(21, 0);
         w.cut(22, 0);
     }
 
     private static void twoHundredBarrelsAtMost() {
-        ResinWoods w = withStilledBarrels();
+        Woods w = withStilledBarrels();
         CHECKS.due("two more barrels would be too many", w.empty(20), -1);
         CHECKS.due("no barrel came", w.count(2), 199);
         CHECKS.due("nothing left the first cup", w.face(20, 0, 3), 400);
@@ -221,7 +221,7 @@ public final class BarrelsTest {
     }
 
     private static void aThousandIsOneBarrel() {
-        ResinWoods w = withStilledBarrels();
+        Woods w = withStilledBarrels();
         w.tree(0, 0, 300);
         for (int times = 0; times < 3; times++) {
             w.cut(23, 0);
@@ -237,7 +237,7 @@ public final class BarrelsTest {
     }
 
     private static void barrelsAreGraded() {
-        ResinWoods w = new ResinWoods();
+        Woods w = new Woods();
         w.tree(2, 0, 80);
         w.weather(0, 3649, 1, 0);
         w.cut(0, 0);
@@ -272,7 +272,7 @@ public final class BarrelsTest {
 
     private static void barrelsAreStilled() {
         int[] parts = {70, 65, 60, 55};
-        ResinWoods w = new ResinWoods();
+        Woods w = new Woods();
         w.tree(0, 0, 400);
         int spirit = 0;
         int rosin = 0;
@@ -300,7 +300,7 @@ public final class BarrelsTest {
         }
         CHECKS.due("spirit", w.count(9), spirit);
         CHECKS.due("rosin", w.count(10), rosin);
-        ResinWoods v = tapped(1, 9);
+        Woods v = tapped(1, 9);
         v.go(5);
         fillCups(v, 1);
         v.empty(0);
@@ -313,7 +313,7 @@ public final class BarrelsTest {
     }
 
     private static void wrongNumbersAreRefused() {
-        ResinWoods w = tapped(2, 9);
+        Woods w = tapped(2, 9);
         w.go(1);
         w.empty(0);
         int[] wrong = {Integer.MIN_VALUE, -1, 2, 59, 60, 200, Integer.MAX_VALUE};

@@ -10,7 +10,7 @@ public final class CountsTest {
     }
 
     private static void allIsCounted() {
-        ResinWoods w = new ResinWoods();
+        Woods w = new Woods();
         w.tree(0, 0, 100);
         w.tree(1, 0, 200);
         w.tree(2, 0, 100);
@@ -35,12 +35,12 @@ public final class CountsTest {
     }
 
     private static void nothingIsLost() {
-        ResinWoods w = new ResinWoods();
+        Woods w = new Woods();
         for (int i = 0; i < 12; i++) {
             w.tree(i % 3, i, 60 + 20 * i);
         }
-        for (int round = 0; round < 30; round++) {
-            w.weather(w.count(0), w.count(0) + 20, round % 10, round * 7 % 10);
+        for (int round = 0; round < 23; round++) {
+            w.weather(w.now(), w.now() + 20, round % 10, round * 7 % 10);
             for (int i = 0; i < 12; i++) {
                 w.cut(i, round % 3);
             }
@@ -58,7 +58,7 @@ public final class CountsTest {
     }
 
     private static void wrongCountsAreRefused() {
-        ResinWoods w = new ResinWoods();
+        Woods w = new Woods();
         int[] wrong = {Integer.MIN_VALUE, -1, 11, 12, Integer.MAX_VALUE};
         for (int what : wrong) {
             CHECKS.due("count(" + what + ")", w.count(what), -1);

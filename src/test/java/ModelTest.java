@@ -6,7 +6,6 @@ public final class ModelTest {
     private static final Checks CHECKS = new Checks();
     private static final int RUNS = 600;
     private static final int WALK_RUNS = 60;
-    private static final int CALLS = 512;
 
     public static void main(String[] args) {
         for (int run = 0; run < RUNS; run++) {
@@ -21,7 +20,7 @@ public final class ModelTest {
     /** A run whose calls follow from its number alone. */
     private static final class Run {
         private final int run;
-        private final ResinWoods woods = new ResinWoods();
+        private final Woods woods = new Woods();
         private final Model model = new Model();
         private final int trees;
         private final int longestGo;
@@ -37,7 +36,8 @@ public final class ModelTest {
         }
 
         void play() {
-            for (int call = 0; call < CALLS; call++) {
+            // A walk is asked by two calls.
+            for (int call = 0; woods.calls() < Woods.MOST_CALLS - 1; call++) {
                 int kind = call < trees ? 0 : 1 + next(40);
                 ask(call, kind);
             }

@@ -39,6 +39,7 @@ public final class RefusedTest {
         refusedQuestions();
         refusedTreeBehind60();
         refusedCutInARest();
+        refusedCutInANewYear();
         refusedCutBehind40();
         refusedEmptyAt199Barrels();
         refusedEmptyAt200Barrels();
@@ -444,23 +445,52 @@ public final class RefusedTest {
     private static void refusedCutInARest() {
         int[] trees = {0, 1, 2};
         int[] barrels = {0, 1};
-        List<Step> years = new ArrayList<>();
-        for (int year = 5; year <= 9; year++) {
-            add(years, "go(365)", w -> w.go(365));
-            add(years, "rests(0)", w -> bit(w.rests(0)));
-            addCuts(years, new int[] {0, 1});
-            add(years, "go(6)", w -> w.go(6));
-            add(years, "empty(0)", w -> w.empty(0));
-        }
-        Scene scene = new Scene("a rest", RefusedTest::resting, questions(trees, barrels, new int[] {1, 3}), years);
+        Scene scene = new Scene("a rest", RefusedTest::resting, questions(trees, barrels, new int[] {1, 3}), years(5));
         refused(scene, "cut of a resting tree", NONE, w -> w.cut(0, 0));
         refused(scene, "cut of a resting tree's next face", NONE, w -> w.cut(0, 1));
         refused(scene, "cut of a resting tree's face behind it", NONE, w -> w.cut(0, 2));
     }
 
+    /** Year by year: whether trees 0 and 1 rest, streaks on them, and what comes of these. */
+    private static List<Step> years(int many) {
+        List<Step> all = new ArrayList<>();
+        for (int year = 0; year < many; year++) {
+            add(all, "go(365)", w -> w.go(365));
+            add(all, "rests(0)", w -> bit(w.rests(0)));
+            add(all, "rests(1)", w -> bit(w.rests(1)));
+            addCuts(all, new int[] {0, 1});
+            add(all, "empty(0)", w -> w.empty(0));
+        }
+        return all;
+    }
+
+    /** Early in year 1: a refused streak must not be one of year 1, or the trees would rest in year 4. */
+    private static Woods newYear() {
+        Woods w = new Woods();
+        w.tree(0, 0, 150);
+        w.tree(0, 0, 100);
+        w.goTo(364);
+        w.cut(0, 0);
+        w.goTo(366);
+        return w;
+    }
+
+    private static void refusedCutInANewYear() {
+        int[] trees = {0, 1};
+        int[] barrels = {0, 1};
+        Scene scene = new Scene("a new year", RefusedTest::newYear, questions(trees, barrels, new int[] {1, 3}),
+            years(5));
+        refused(scene, "too early", NONE, w -> w.cut(0, 0));
+        refused(scene, "behind the next face", NONE, w -> w.cut(0, 2));
+        refused(scene, "face -1", NONE, w -> w.cut(0, -1));
+        refused(scene, "behind the next face of an uncut tree", NONE, w -> w.cut(1, 1));
+    }
+
+    /** On the first day of year 1. */
     private static Woods forty() {
         Woods w = new Woods();
         w.tree(0, 0, 150);
+        w.goTo(165);
         for (int streak = 0; streak < 40; streak++) {
             w.cut(0, 0);
             w.go(5);
@@ -471,9 +501,11 @@ public final class RefusedTest {
     private static void refusedCutBehind40() {
         int[] trees = {0};
         int[] barrels = {0, 1};
-        Scene scene = new Scene("forty streaks", RefusedTest::forty, questions(trees, barrels, new int[] {1}),
-            later(trees, barrels));
+        List<Step> questions = questions(trees, barrels, new int[] {1});
+        Scene scene = new Scene("forty streaks", RefusedTest::forty, questions, later(trees, barrels));
         refused(scene, "a 41st streak", NONE, w -> w.cut(0, 0));
+        Scene longer = new Scene("forty streaks, later years", RefusedTest::forty, questions, years(5));
+        refused(longer, "a 41st streak", NONE, w -> w.cut(0, 0));
     }
 
     /** A tree of wood 0, which is let, has 1001, for which two barrels would have to come. */

@@ -16,8 +16,8 @@ public final class RentsTest {
     }
 
     /** Trees of wood 0 with one face each, on which a streak has just been cut. */
-    private static ResinWoods tapped(int trees, int warmth) {
-        ResinWoods w = new ResinWoods();
+    private static Woods tapped(int trees, int warmth) {
+        Woods w = new Woods();
         w.weather(0, 3649, warmth, 0);
         for (int i = 0; i < trees; i++) {
             w.tree(0, i, 100);
@@ -27,7 +27,7 @@ public final class RentsTest {
     }
 
     private static void rentIsCutOfAllTogether() {
-        ResinWoods w = tapped(3, 1);
+        Woods w = tapped(3, 1);
         w.let(0, 15);
         w.go(1);
         w.empty(0);
@@ -42,7 +42,7 @@ public final class RentsTest {
     }
 
     private static void onlyLaterResinIsDue() {
-        ResinWoods w = tapped(2, 9);
+        Woods w = tapped(2, 9);
         w.go(1);
         w.empty(0);
         w.let(0, 100);
@@ -57,7 +57,7 @@ public final class RentsTest {
     }
 
     private static void woodsAreLetAnew() {
-        ResinWoods w = tapped(2, 9);
+        Woods w = tapped(2, 9);
         w.let(0, 100);
         w.go(1);
         w.empty(0);
@@ -79,7 +79,7 @@ public final class RentsTest {
     }
 
     private static void barrelsArePaid() {
-        ResinWoods w = tapped(2, 9);
+        Woods w = tapped(2, 9);
         w.tree(1, 0, 100);
         w.cut(2, 0);
         w.go(1);
@@ -107,7 +107,7 @@ public final class RentsTest {
     }
 
     private static void wrongRentsAreRefused() {
-        ResinWoods w = tapped(1, 9);
+        Woods w = tapped(1, 9);
         int[] woods = {Integer.MIN_VALUE, -1, 6, Integer.MAX_VALUE};
         for (int wood : woods) {
             CHECKS.fails("let(" + wood + ", 5)", w.let(wood, 5));
@@ -127,7 +127,7 @@ public final class RentsTest {
     }
 
     private static void woodsBurn() {
-        ResinWoods w = tapped(3, 9);
+        Woods w = tapped(3, 9);
         w.tree(1, 0, 100);
         w.cut(3, 0);
         w.go(2);
@@ -153,7 +153,7 @@ public final class RentsTest {
     }
 
     private static void burntWoodsArentLet() {
-        ResinWoods w = tapped(1, 9);
+        Woods w = tapped(1, 9);
         w.tree(1, 0, 100);
         w.cut(1, 0);
         w.let(0, 100);
@@ -174,7 +174,7 @@ public final class RentsTest {
     }
 
     private static void newTreesOfABurntWoodLive() {
-        ResinWoods w = tapped(1, 9);
+        Woods w = tapped(1, 9);
         w.burn(0);
         CHECKS.due("a new tree", w.tree(0, 0, 100), 1);
         CHECKS.due("is cut", w.cut(1, 0), 1);

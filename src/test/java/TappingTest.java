@@ -24,14 +24,14 @@ public final class TappingTest {
         CHECKS.end();
     }
 
-    private static ResinWoods withTree(int girth) {
-        ResinWoods w = new ResinWoods();
+    private static Woods withTree(int girth) {
+        Woods w = new Woods();
         w.tree(0, 0, girth);
         return w;
     }
 
     private static void weatherIsTold() {
-        ResinWoods w = withTree(100);
+        Woods w = withTree(100);
         w.cut(0, 0);
         CHECKS.holds("weather of two days", w.weather(1, 2, 9, 0));
         w.go(1);
@@ -49,7 +49,7 @@ public final class TappingTest {
     }
 
     private static void wrongWeatherIsRefused() {
-        ResinWoods w = withTree(100);
+        Woods w = withTree(100);
         w.cut(0, 0);
         int[][] wrong = {
             {0, 0, -1, 0}, {0, 0, 10, 0}, {0, 0, 0, -1}, {0, 0, 0, 10}, {-1, 0, 0, 0}, {1, 0, 0, 0},
@@ -68,7 +68,7 @@ public final class TappingTest {
     }
 
     private static void weatherIsOfDaysNotEnded() {
-        ResinWoods w = withTree(100);
+        Woods w = withTree(100);
         w.go(10);
         CHECKS.fails("a day that has ended", w.weather(9, 12, 1, 1));
         CHECKS.holds("this day", w.weather(10, 10, 1, 1));
@@ -79,7 +79,7 @@ public final class TappingTest {
     }
 
     private static void facesOpenInTurn() {
-        ResinWoods w = withTree(220);
+        Woods w = withTree(220);
         CHECKS.due("face 1 isn't next", w.cut(0, 1), -1);
         CHECKS.due("face 0 opens", w.cut(0, 0), 1);
         CHECKS.due("face 2 isn't next", w.cut(0, 2), -1);
@@ -90,7 +90,7 @@ public final class TappingTest {
     }
 
     private static void streaksKeepFiveDays() {
-        ResinWoods w = withTree(220);
+        Woods w = withTree(220);
         w.cut(0, 0);
         CHECKS.due("the same day", w.cut(0, 0), -1);
         w.go(4);
@@ -105,7 +105,7 @@ public final class TappingTest {
     }
 
     private static void fortyStreaksAtMost() {
-        ResinWoods w = withTree(220);
+        Woods w = withTree(220);
         for (int i = 1; i <= 40; i++) {
             CHECKS.due("streak " + i, w.cut(0, 0), i);
             w.go(5);
@@ -117,7 +117,7 @@ public final class TappingTest {
     }
 
     private static void wrongCutsAreRefused() {
-        ResinWoods w = withTree(400);
+        Woods w = withTree(400);
         int[] wrong = {Integer.MIN_VALUE, -1, 1, 2, 3, 60, Integer.MAX_VALUE};
         for (int number : wrong) {
             CHECKS.due("cut(" + number + ", 0)", w.cut(number, 0), -1);
@@ -130,14 +130,14 @@ public final class TappingTest {
         CHECKS.due("a burnt tree isn't cut", w.cut(0, 0), -1);
     }
 
-    private static void goToYear(ResinWoods w, int year) {
+    private static void goToYear(Woods w, int year) {
         while (w.count(0) < year * 365) {
             w.go(Math.min(400, year * 365 - w.count(0)));
         }
     }
 
     private static void treesRest() {
-        ResinWoods w = withTree(400);
+        Woods w = withTree(400);
         w.tree(0, 0, 400);
         w.tree(0, 0, 400);
         for (int year = 0; year < 4; year++) {
@@ -169,7 +169,7 @@ public final class TappingTest {
     }
 
     private static void anyFaceTires() {
-        ResinWoods w = withTree(400);
+        Woods w = withTree(400);
         w.cut(0, 0);
         goToYear(w, 1);
         w.cut(0, 1);
@@ -184,7 +184,7 @@ public final class TappingTest {
     }
 
     private static void aRestEndsAndBeginsAnew() {
-        ResinWoods w = withTree(80);
+        Woods w = withTree(80);
         int streaks = 0;
         for (int year = 0; year <= 10; year++) {
             goToYear(w, year);
@@ -197,7 +197,7 @@ public final class TappingTest {
     }
 
     private static void daysGo() {
-        ResinWoods w = withTree(100);
+        Woods w = withTree(100);
         CHECKS.due("go(0)", w.go(0), 0);
         int[] wrong = {-1, 401, Integer.MIN_VALUE, Integer.MAX_VALUE};
         for (int n : wrong) {
@@ -220,7 +220,7 @@ public final class TappingTest {
     }
 
     private static void strengthFades() {
-        ResinWoods w = withTree(100);
+        Woods w = withTree(100);
         w.weather(0, 3649, 1, 0);
         w.go(3);
         w.cut(0, 0);
@@ -235,7 +235,7 @@ public final class TappingTest {
     }
 
     private static void newStreakRenewsStrength() {
-        ResinWoods w = withTree(100);
+        Woods w = withTree(100);
         w.cut(0, 0);
         w.go(7);
         CHECKS.due("seven days", w.face(0, 0, 3), 5 * (6 + 5 + 4 + 3 + 2 + 1 + 1));
@@ -245,7 +245,7 @@ public final class TappingTest {
     }
 
     private static void gradesAgeByYears() {
-        ResinWoods w = withTree(400);
+        Woods w = withTree(400);
         w.weather(0, 3649, 1, 0);
         w.go(363);
         w.cut(0, 0);
@@ -268,7 +268,7 @@ public final class TappingTest {
     }
 
     private static void cupsRunOver() {
-        ResinWoods w = withTree(220);
+        Woods w = withTree(220);
         w.weather(0, 3649, 9, 0);
         w.cut(0, 0);
         w.go(5);
@@ -294,7 +294,7 @@ public final class TappingTest {
     }
 
     private static void rainWashesEachGrade() {
-        ResinWoods w = withTree(100);
+        Woods w = withTree(100);
         w.go(364);
         w.weather(364, 364, 5, 9);
         w.weather(365, 365, 7, 4);
@@ -307,7 +307,7 @@ public final class TappingTest {
         CHECKS.due("in the cup", w.face(0, 0, 3), 61);
         CHECKS.due("washed", w.count(5), 4);
         CHECKS.due("washing isn't running over", w.count(4), 0);
-        ResinWoods full = withTree(100);
+        Woods full = withTree(100);
         full.weather(0, 9, 9, 0);
         full.cut(0, 0);
         full.go(5);
@@ -321,7 +321,7 @@ public final class TappingTest {
     }
 
     private static void facesTell() {
-        ResinWoods w = withTree(100);
+        Woods w = withTree(100);
         w.go(6);
         w.cut(0, 0);
         w.go(5);

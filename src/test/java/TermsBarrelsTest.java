@@ -222,6 +222,11 @@ public final class TermsBarrelsTest {
         w.empty(2);
         CHECKS.due("the new one is filled on", w.barrel(2, 0), 15);
         CHECKS.due("three barrels", w.count(2), 3);
+        w.burn(0);
+        w.tree(0, 0, 100);
+        w.fill(3, 0, 7);
+        w.empty(3);
+        CHECKS.due("a burnt wood's new tree fills it on as well", w.barrel(2, 0), 22);
     }
 
     private static void barrelsKnowGradesAndTrees() {
@@ -279,6 +284,7 @@ public final class TermsBarrelsTest {
         CHECKS.due("of grade 1 alone", barrelOf(0, 9, 0, 0).barrel(0, 5), 1);
         CHECKS.due("of grade 2 alone", barrelOf(0, 0, 9, 0).barrel(0, 5), 2);
         CHECKS.due("of grade 3 alone", barrelOf(0, 0, 0, 9).barrel(0, 5), 3);
+        CHECKS.due("one of grade 3", barrelOf(0, 0, 0, 1).barrel(0, 5), 3);
         CHECKS.due("399 by 400", barrelOf(1, 399, 0, 0).barrel(0, 5), 0);
         CHECKS.due("10 by 11", barrelOf(6, 0, 5, 0).barrel(0, 5), 0);
         CHECKS.due("12 by 12", barrelOf(6, 0, 6, 0).barrel(0, 5), 1);

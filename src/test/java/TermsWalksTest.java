@@ -8,6 +8,7 @@ public final class TermsWalksTest {
         stepsAreAddedTreeByTree();
         sixtyStepsAreADay();
         tenDaysOfALongWalk();
+        ordersOf19Days();
         daysArentAbove3650();
         runOverIsOfEachTree();
         runOverIsUpToThere();
@@ -111,6 +112,24 @@ public final class TermsWalksTest {
         CHECKS.due("1, 3, 6, 10 days: 0, 2 * 50, 0, 9", w.walked(15, 0, 6282, 0), 109);
     }
 
+    /** Trees 0, 2, 4 stand in one corner, 1, 3, 5 in the other; only 0 and 5 run. From and back takes 19 days. */
+    private static void ordersOf19Days() {
+        CHECKS.sentence("of all ORDERS that with the least RUN OVER");
+        Woods w = new Woods();
+        w.calm();
+        grow(w, 9999, 3, 99);
+        for (int tree = 1; tree <= 4; tree++) {
+            w.tree(0, tree % 2 == 0 ? 9999 : 0, 220);
+        }
+        grow(w, 0, 1, 180);
+        w.cutFaces(0, 3);
+        w.cut(5, 0);
+        w.weather(w.now(), w.now() + 30, 9, 0);
+        CHECKS.due("tree 0 behind 2 days: 0; tree 5 behind 6: 9", w.walked(63, 0, 1011, 0), 9);
+        CHECKS.due("there and back once", w.walked(63, 0, 1011, 1), 177 + 198);
+        dueOrder(w, 63, 1011, 0, 2, 4, 1, 3, 5);
+    }
+
     private static void daysArentAbove3650() {
         CHECKS.sentence("(not above 3650)");
         Woods w = new Woods();
@@ -206,19 +225,20 @@ public final class TermsWalksTest {
         Woods w = new Woods();
         w.tree(0, 0, 100);
         w.calm();
-        w.fill(0, 0, 199);
         w.goTo(365);
-        w.fill(0, 0, 102);
-        w.goTo(729);
+        w.fill(0, 0, 231);
+        w.goTo(730);
+        w.fill(0, 0, 70);
+        w.goTo(1094);
         w.cut(0, 0);
-        w.weather(729, 729, 9, 0);
-        w.weather(730, 730, 9, 1);
-        w.weather(731, 731, 9, 0);
-        CHECKS.due("199, 156 and 45: 400", w.walked(1, 0, 6060, 0), 0);
-        CHECKS.due("one of 199, one of 156, none of 45 is washed: 36 come to 398", w.walked(1, 0, 9090, 0), 34);
+        w.weather(1094, 1094, 9, 0);
+        w.weather(1095, 1095, 9, 1);
+        w.weather(1096, 1096, 9, 0);
+        CHECKS.due("231, 124 and 45: 400", w.walked(1, 0, 6060, 0), 0);
+        CHECKS.due("two of 231, one of 124, none of 45 are washed: 36 come to 397", w.walked(1, 0, 9090, 0), 33);
         w.go(3);
-        CHECKS.due("it comes as foreseen", w.face(0, 0, 8), 34);
-        CHECKS.due("its grade", w.face(0, 0, 6), 45 + 2);
+        CHECKS.due("it comes as foreseen", w.face(0, 0, 8), 33);
+        CHECKS.due("its grade", w.face(0, 0, 6), 45 + 3);
     }
 
     /** From 500: tree 0 is 5 steps off, tree 1 is 55, and 60 lie between them; all behind 60 steps is a day later. */

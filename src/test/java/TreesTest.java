@@ -14,7 +14,7 @@ public final class TreesTest {
     }
 
     private static void newObjectIsBare() {
-        ResinWoods w = new ResinWoods();
+        Woods w = new Woods();
         CHECKS.due("NONE", ResinWoods.NONE, -1);
         for (int what = 0; what <= 10; what++) {
             CHECKS.due("a new object's count " + what, w.count(what), 0);
@@ -32,7 +32,7 @@ public final class TreesTest {
     }
 
     private static void treesHaveNumbersAsTheyCome() {
-        ResinWoods w = new ResinWoods();
+        Woods w = new Woods();
         CHECKS.due("the first tree", w.tree(0, 0, 20), 0);
         CHECKS.due("a refused tree", w.tree(0, 0, 19), -1);
         CHECKS.due("the second tree, last wood, place and girth", w.tree(5, 9999, 400), 1);
@@ -41,7 +41,7 @@ public final class TreesTest {
     }
 
     private static void wrongTreesAreRefused() {
-        ResinWoods w = new ResinWoods();
+        Woods w = new Woods();
         int[] woods = {Integer.MIN_VALUE, -1, 6, Integer.MAX_VALUE};
         for (int wood : woods) {
             CHECKS.due("tree of wood " + wood, w.tree(wood, 0, 100), -1);
@@ -59,7 +59,7 @@ public final class TreesTest {
     }
 
     private static void sixtyTreesCome() {
-        ResinWoods w = new ResinWoods();
+        Woods w = new Woods();
         for (int i = 0; i < 60; i++) {
             CHECKS.due("tree " + i, w.tree(i % 6, i, 80), i);
         }
@@ -70,7 +70,7 @@ public final class TreesTest {
     }
 
     private static void girthsBearFaces() {
-        ResinWoods w = new ResinWoods();
+        Woods w = new Woods();
         for (int girth = 20; girth <= 400; girth++) {
             int want = girth < 80 ? 0 : girth < 150 ? 1 : girth < 220 ? 2 : 3;
             CHECKS.due("bears(" + girth + ")", w.bears(girth), want);
@@ -78,7 +78,7 @@ public final class TreesTest {
     }
 
     private static void treesBearWhatTheirGirthBears() {
-        ResinWoods w = new ResinWoods();
+        Woods w = new Woods();
         int[] girths = {20, 79, 80, 149, 150, 219, 220, 400};
         for (int i = 0; i < girths.length; i++) {
             w.tree(0, 0, girths[i]);
@@ -90,8 +90,8 @@ public final class TreesTest {
     }
 
     private static void objectsShareNothing() {
-        ResinWoods one = new ResinWoods();
-        ResinWoods other = new ResinWoods();
+        Woods one = new Woods();
+        Woods other = new Woods();
         one.tree(0, 0, 300);
         one.weather(0, 3649, 9, 9);
         one.let(0, 50);

@@ -20,7 +20,7 @@ public final class WalksTest {
     }
 
     /** Fills the first cup of each tree, so that all that runs from then on runs over. */
-    private static void fillCups(ResinWoods w, int trees) {
+    private static void fillCups(Woods w, int trees) {
         w.weather(w.count(0), w.count(0) + 14, 9, 0);
         for (int times = 0; times < 3; times++) {
             for (int tree = 0; tree < trees; tree++) {
@@ -31,7 +31,7 @@ public final class WalksTest {
     }
 
     private static void stepsGoAlongBothSides() {
-        ResinWoods w = new ResinWoods();
+        Woods w = new Woods();
         w.tree(0, 1020, 100);
         w.tree(0, 9999, 100);
         CHECKS.due("along x and y", w.walked(1, 0, 525, 1), 5 + 5);
@@ -44,7 +44,7 @@ public final class WalksTest {
     }
 
     private static void sixtyStepsAreADay() {
-        ResinWoods w = new ResinWoods();
+        Woods w = new Woods();
         w.tree(0, 0, 100);
         fillCups(w, 1);
         w.cut(0, 0);
@@ -60,7 +60,7 @@ public final class WalksTest {
     }
 
     private static void leastRunsOver() {
-        ResinWoods w = new ResinWoods();
+        Woods w = new Woods();
         w.tree(0, 0, 100);
         w.tree(0, 3030, 100);
         fillCups(w, 2);
@@ -77,7 +77,7 @@ public final class WalksTest {
     }
 
     private static void longWalksLastForDays() {
-        ResinWoods w = new ResinWoods();
+        Woods w = new Woods();
         int[] corners = {0, 9900, 9999, 99};
         for (int where : corners) {
             w.tree(0, where, 100);
@@ -94,7 +94,7 @@ public final class WalksTest {
     }
 
     private static void fewestStepsOfLikeOnes() {
-        ResinWoods w = new ResinWoods();
+        Woods w = new Woods();
         int[] places = {3000, 1000, 2000, 5000, 4000, 6000};
         for (int where : places) {
             w.tree(0, where, 100);
@@ -110,7 +110,7 @@ public final class WalksTest {
     }
 
     private static void firstOfLikeOnes() {
-        ResinWoods w = new ResinWoods();
+        Woods w = new Woods();
         int[] places = {5060, 5040, 5060, 5040, 5050, 5050};
         for (int where : places) {
             w.tree(0, where, 100);
@@ -125,7 +125,7 @@ public final class WalksTest {
     }
 
     private static void rainMakesRoom() {
-        ResinWoods w = new ResinWoods();
+        Woods w = new Woods();
         w.tree(0, 0, 100);
         fillCups(w, 1);
         w.cut(0, 0);
@@ -139,7 +139,7 @@ public final class WalksTest {
     }
 
     private static void foreseenResinHasItsGrade() {
-        ResinWoods w = new ResinWoods();
+        Woods w = new Woods();
         w.tree(0, 0, 100);
         w.go(365);
         fillCups(w, 1);
@@ -151,7 +151,7 @@ public final class WalksTest {
     }
 
     private static void walksEndWithTheDays() {
-        ResinWoods w = new ResinWoods();
+        Woods w = new Woods();
         w.tree(0, 0, 100);
         while (w.count(0) < 3633) {
             w.go(Math.min(400, 3633 - w.count(0)));
@@ -168,7 +168,7 @@ public final class WalksTest {
     }
 
     private static void burntTreesDontRun() {
-        ResinWoods w = new ResinWoods();
+        Woods w = new Woods();
         w.tree(0, 0, 100);
         w.tree(1, 0, 100);
         fillCups(w, 2);
@@ -181,7 +181,7 @@ public final class WalksTest {
     }
 
     private static void highTreesAreWalked() {
-        ResinWoods w = new ResinWoods();
+        Woods w = new Woods();
         for (int i = 0; i < 60; i++) {
             w.tree(i % 6, i * 100, 100);
         }
@@ -202,7 +202,7 @@ public final class WalksTest {
     }
 
     private static void wrongWalksAreRefused() {
-        ResinWoods w = new ResinWoods();
+        Woods w = new Woods();
         for (int i = 0; i < 8; i++) {
             w.tree(0, i, 100);
         }
@@ -226,7 +226,7 @@ public final class WalksTest {
     }
 
     private static void walksChangeNothing() {
-        ResinWoods w = new ResinWoods();
+        Woods w = new Woods();
         w.tree(0, 0, 100);
         fillCups(w, 1);
         w.cut(0, 0);
