@@ -6,6 +6,7 @@ import java.lang.reflect.Modifier;
 import java.nio.file.Files;
 import java.nio.file.Path;
 import java.util.Arrays;
+import java.util.List;
 import java.util.TreeSet;
 import java.util.regex.Matcher;
 import java.util.regex.Pattern;
@@ -14,21 +15,30 @@ import java.util.regex.Pattern;
 public final class RulesTest {
     private static final Checks CHECKS = new Checks();
     private static final Path SOURCE = Path.of("src/main/java/ResinWoods.java");
+    private static final Path DOCUMENT = Path.of("../shared/DOC.md");
+    private static final int MOST_LINES_OF_A_METHOD = 60;
     private static final String[] FACE = {
         "int tree(int, int, int)", "int bears(int)", "boolean weather(int, int, int, int)", "int cut(int, int)",
         "boolean rests(int)", "int go(int)", "int face(int, int, int)", "int empty(int)", "int barrel(int, int)",
         "int from(int, int)", "int still(int)", "boolean let(int, int)", "int due(int)", "int pay(int)",
         "int burn(int)", "int walk(int, int, int, int)", "int walked(int, int, int, int)", "int count(int)",
     };
+    private static final List<Class<?>> STATIC_TYPES = List.of(int.class, long.class, boolean.class, char.class,
+        String.class, int[].class, long[].class, char[].class, byte[].class);
     private static final String[] FORBIDDEN_WORDS = {
         "throw", "throws", "try", "catch", "synchronized", "assert", "package", "hashCode", "toString", "Random",
         "System", "Thread", "Exact", "Object", "var", "volatile", "transient", "native", "NaN",
     };
 
     public static void main(String[] args) throws IOException {
+        String text = Files.readString(SOURCE);
         membersAreTheFace();
+        nothingIsInherited();
+        documentHasThisFace(text);
         classesInsideAreStatic();
-        textKeepsToTheRules(Files.readString(SOURCE));
+        textKeepsToTheRules(text);
+        methodsAreShort(text);
+        onlyWhatIsKeptIsMade(text);
         CHECKS.end();
     }
 
@@ -52,13 +62,43 @@ public final class RulesTest {
             CHECKS.fails(m + " is private and bears a public name", isPrivate && names.contains(m.getName()));
         }
         for (Field f : type.getDeclaredFields()) {
-            boolean isNone = f.getName().equals("NONE") && Modifier.isPublic(f.getModifiers());
+            boolean isNone = f.toString().equals("public static final int ResinWoods.NONE");
             CHECKS.holds(f + " is private", isNone || Modifier.isPrivate(f.getModifiers()));
         }
+        CHECKS.due("public constants", type.getFields().length, 1);
         Constructor<?>[] made = type.getDeclaredConstructors();
         CHECKS.due("constructors", made.length, 1);
         CHECKS.holds("public, without parameters",
             Modifier.isPublic(made[0].getModifiers()) && made[0].getParameterCount() == 0);
+    }
+
+    /** What comes from a class above or an interface would be public too. */
+    private static void nothingIsInherited() {
+        CHECKS.holds("no class above", ResinWoods.class.getSuperclass() == Object.class);
+        CHECKS.due("interfaces", ResinWoods.class.getInterfaces().length, 0);
+        CHECKS.due("public classes inside", ResinWoods.class.getClasses().length, 0);
+    }
+
+    /** The heads as the document writes them, names of parameters among them, stand in the class, and no others. */
+    private static void documentHasThisFace(String text) throws IOException {
+        if (!Files.isReadable(DOCUMENT)) {
+            System.out.println("no document here to look into");
+            return;
+        }
+        String document = Files.readString(DOCUMENT);
+        int begin = document.indexOf("```java");
+        TreeSet<String> wanted = publicHeads(document.substring(begin, document.indexOf("```", begin + 3)));
+        CHECKS.holds("the class has " + wanted, publicHeads(text).equals(wanted));
+        CHECKS.due("heads", wanted.size(), FACE.length + 3);
+    }
+
+    private static TreeSet<String> publicHeads(String code) {
+        TreeSet<String> heads = new TreeSet<>();
+        Matcher found = Pattern.compile("(?m)^ *(public [^;{]*?) *[;{]").matcher(code);
+        while (found.find()) {
+            heads.add(found.group(1));
+        }
+        return heads;
     }
 
     private static void classesInsideAreStatic() {
@@ -78,6 +118,7 @@ public final class RulesTest {
         for (Field f : type.getDeclaredFields()) {
             if (Modifier.isStatic(f.getModifiers())) {
                 CHECKS.holds(f + " is final", Modifier.isFinal(f.getModifiers()));
+                CHECKS.holds(f + " is of a type that constants may have", STATIC_TYPES.contains(f.getType()));
             } else {
                 own++;
             }
@@ -105,5 +146,34 @@ public final class RulesTest {
             CHECKS.holds(calls.group(), Arrays.asList("min", "max", "abs", "bitCount").contains(calls.group(2)));
         }
         CHECKS.holds("characters up to 255", text.chars().allMatch(c -> c < 256));
+    }
+    /** By the indentation: a head that ends with a brace, up to the brace below it. */
+    private static void methodsAreShort(String text) {
+        String[] lines = text.split("\n");
+        int methods = 0;
+        for (int first = 0; first < lines.length; first++) {
+            if (lines[first].matches(" +(public |private |static )*[\\w\\[\\]<>]* ?\\w+\\([^()]*\\) \\{")
+                && !lines[first].trim().matches("(if|for|while|switch) .*")) {
+                String end = lines[first].replaceAll("\\S.*", "") + "}";
+                int last = first;
+                while (last < lines.length - 1 && !lines[last].equals(end)) {
+                    last++;
+                }
+                CHECKS.holds(lines[first].trim() + " has few lines", last - first + 1 <= MOST_LINES_OF_A_METHOD);
+                methods++;
+            }
+        }
+        CHECKS.holds("the methods are found", methods > FACE.length);
+    }
+    /** All calls of a run share one room: beside fields' initialisers, only what the document bounds is made. */
+    private static void onlyWhatIsKeptIsMade(String text) {
+        List<String> kept = Arrays.asList("Wood", "Tree", "Face", "Barrel");
+        for (String line : text.split("\n")) {
+            Matcher made = Pattern.compile("\\bnew (\\w+)").matcher(line);
+            boolean isField = line.matches(" +(private )?final .* = new .*;");
+            if (made.find() && !isField) {
+                CHECKS.holds(line.trim() + " makes what is kept", kept.contains(made.group(1)));
+            }
+        }
     }
 }
